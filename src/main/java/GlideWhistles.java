@@ -1110,24 +1110,18 @@ public final class GlideWhistles {
             vocabulary.clear();
             step();
             for (int k = 0; k < MAX_TOKENS && error != NOT_A_LANGUAGE && sign != Sign.END; k++) {
-                readLine();
+                if (sign == Sign.WORD) {
+                    readWord();
+                } else if (sign == Sign.BAND) {
+                    step();
+                    book.band = readNumber(0, MAX_BAND);
+                } else if (sign == Sign.NEAR) {
+                    step();
+                    book.nearness = readNumber(0, MAX_NEAR);
+                } else {
+                    readRule();
+                }
                 expect(Sign.SEMICOLON);
-            }
-        }
-
-        private void readLine() {
-            if (sign == Sign.WORD) {
-                readWord();
-            } else if (sign == Sign.BAND) {
-                step();
-                book.band = readNumber(0, MAX_BAND);
-            } else if (sign == Sign.NEAR) {
-                step();
-                book.nearness = readNumber(0, MAX_NEAR);
-            } else if (sign == Sign.PRUNE || sign == Sign.RESTORE || sign == Sign.SHIFT) {
-                readRule();
-            } else {
-                refuse();
             }
         }
 
@@ -1250,6 +1244,10 @@ public final class GlideWhistles {
         }
 
         private void readRule() {
+            if (sign != Sign.PRUNE && sign != Sign.RESTORE && sign != Sign.SHIFT) {
+                refuse();
+                return;
+            }
             if (book.count >= MAX_RULES) {
                 blame(TOO_MANY);
             }
@@ -1269,11 +1267,9 @@ public final class GlideWhistles {
             book.addRule(kind, word, sumStart, testStart);
         }
 
-        /** Takes a token behind which the depth is 1 greater. */
-        private void descend(int depth) {
-            if (depth < MAX_DEPTH) {
-                step();
-            } else {
+        /** This token would make the depth 1 greater. */
+        private void requireDepth(int depth) {
+            if (depth >= MAX_DEPTH) {
                 refuse();
             }
         }
@@ -1298,11 +1294,13 @@ public final class GlideWhistles {
 
         private void readSingle(int depth) {
             if (sign == Sign.NOT) {
-                descend(depth);
+                requireDepth(depth);
+                step();
                 readSingle(depth + 1);
                 book.addSign(Sign.NOT, 0);
             } else if (sign == Sign.OPEN_TEST) {
-                descend(depth);
+                requireDepth(depth);
+                step();
                 readTest(depth + 1);
                 expect(Sign.CLOSE_TEST);
             } else if (sign == Sign.HEARD || sign == Sign.PRUNED) {
@@ -1349,11 +1347,13 @@ public final class GlideWhistles {
 
         private void readValue(int depth) {
             if (sign == Sign.MINUS) {
-                descend(depth);
+                requireDepth(depth);
+                step();
                 readValue(depth + 1);
                 book.addSign(Sign.NEGATIVE, 0);
             } else if (sign == Sign.OPEN) {
-                descend(depth);
+                requireDepth(depth);
+                step();
                 readSum(depth + 1);
                 expect(Sign.CLOSE);
             } else if (sign == Sign.MIN || sign == Sign.MAX) {
@@ -1377,7 +1377,8 @@ public final class GlideWhistles {
             if (sign != Sign.OPEN) {
                 refuse();
             }
-            descend(depth);
+            requireDepth(depth);
+            step();
             readSum(depth + 1);
             expect(Sign.COMMA);
             readSum(depth + 1);

@@ -185,6 +185,8 @@ public final class Promises {
         s.teachMarked(sum + repeat("(", 8) + "max^(1,2" + repeat(")", 9) + ";", 1);
         s.teachMarked(sum + repeat("(", 8) + "min ^1" + repeat(")", 8) + ";", 1);
         s.teachMarked(sum + repeat("min(1,", 8) + "^(1" + repeat(")", 9) + ";", 1).teach(sum + repeat("max(1,", 8) + "1" + repeat(")", 8) + ";");
+        s.teach(sum + repeat("min(", 8) + "1" + repeat(",1)", 8) + ";").teachMarked(sum + repeat("max(", 8) + "min^(1" + repeat(",1)", 9) + ";", 1);
+        s.teachMarked(sum + repeat("max(", 8) + "^-1" + repeat(",1)", 8) + ";", 1).teachMarked(sum + repeat("max(", 8) + "1,^-1)" + repeat(",1)", 7) + ";", 1);
         s.teachMarked(test + "not [ not [ not [ (-^(1)) < 1 ] ] ];", 1).teach(test + "not [ not [ not [ (-1) < 1 ] ] ];");
         s.teachMarked(test + repeat("not [", 4) + "^(1) < 1" + repeat("]", 4) + ";", 1);
         s.teachMarked(test + repeat("not [", 4) + "1 < ^- 1" + repeat("]", 4) + ";", 1);
@@ -253,6 +255,11 @@ public final class Promises {
         s.due("rulesCarriedOut", 0).due("heardBeats", 0).due("distanceTo 0", STATE).due("trim 1", WRONG).due("areNear 0 1", "false");
         s.due("turnPruned 0", "true").due("teach", 0).due("words", 0).due("keptWords", 0).due("errorAt", -1);
         s.teach("word a is hold 5 for 3;").due("isPruned 0", "false");
+        // Nothing is left of the languages before, neither of the last nor of the one ahead of it.
+        s.teach("word a is hold 5 for 2; word b is hold 9 for 2; prune a when distance of a < 999; band 0; near 50;").due("hear 5", 1).due("passLessons 3", 1);
+        s.teach("word a is hold 5 for 2; word b is hold 7 for 2; prune a when distance of a < 999;").due("hear 5", 1).due("passLessons 2", 1);
+        s.teach("word a is hold 5 for 2; word b is hold 7 for 2; prune a when distance of a < 999;").due("lessons", 0).due("rulesCarriedOut", 0).due("rules", 1);
+        s.due("areNear 0 1", "false").due("passLessons 1", 0).due("keptAfter 1", 2);
         // Band and nearness are those of the latest line, and 4 and 6 again in the next language.
         s.teach("near 1; word a is hold 5 for 2; near 20; word b is hold 9 for 2; near 30;").due("areNear 0 1", "true");
         s.teach("near 90; word a is hold 5 for 2; word b is hold 9 for 2; near 16;").due("areNear 0 1", "false");
@@ -379,6 +386,7 @@ public final class Promises {
         s.due("nearestTo 0", 3).due("nearestTo 1", 4).due("nearestTo 4", 1).due("nearestTo 2", 0).due("nearestTo 3", 1);
         s.due("turnPruned 3", "true").due("nearestTo 0", 3).due("nearestTo 5", OUT).due("nearestTo -1", OUT);
         told("word a is hold 10 for 2; word b is hold 13 for 2; word c is hold 7 for 2;").due("nearestTo 0", 1).due("nearestTo 1", 0).due("nearestTo 2", 0);
+        told("word a is hold 10 for 2; word b is hold 30 for 2;").due("nearestTo 0", 1).due("nearestTo 1", 0);
         told("word a is hold 10 for 2;").due("nearestTo 0", STATE).due("nearestTo 1", OUT).due("nearestTo " + MIN, OUT);
         Script.fresh().due("nearestTo 0", OUT);
     }
@@ -426,6 +434,8 @@ public final class Promises {
         s = told("word a is hold 1 for 1, hold 9 for 2; band 0;");
         s.due("hear 1", 1).due("hear 1", 2).due("hear 9", 3).due("distanceTo 0", 8).due("stepsTo 0", 3);
         s = told("word a is rest for 9, rest for 9, rest for 6;").due("hear 0", 1).due("stepsTo 0", 24).due("hear 0", 2).due("stepsTo 0", 24);
+        // The way is the one of least cost by pitches: 2 + 2 + 2 + 2 with 4 steps, not 2 + 6 + 2 with 3.
+        s = told("word a is hold 1 for 1, hold 9 for 2;").due("hear 3", 1).due("hear 3", 2).due("hear 7", 3).due("distanceTo 0", 8).due("stepsTo 0", 4);
     }
 
     private static void meant() {
@@ -576,6 +586,7 @@ public final class Promises {
         // With nothing heard no word was meant, and the distance is 999; so it is with all words pruned.
         Script s = told("word a is hold 10 for 3; word b is hold 9 for 1; prune a when heard a; prune b when not heard b and distance of a = 999;");
         s.due("passLessons 1", 1).due("isPruned 0", "false").due("isPruned 1", "true").due("hear 9", 1).due("passLessons 1", 1).due("isPruned 0", "true").due("passLessons 1", 0);
+        s = told("word a is hold 10 for 3; prune a when distance of a = 999;").due("hear 9", 1).due("passLessons 1", 0).due("forget", 1).due("passLessons 1", 1);
         s = told("word a is hold 10 for 3; restore a when heard a or distance of a < 999 and pruned a and lesson = 1;");
         s.due("turnPruned 0", "true").due("hear 9", 1).due("passLessons 1", 0).due("passLessons 1", 1).due("isPruned 0", "false");
         // The meant word follows what rules ahead pruned and shifted in the same lesson.
@@ -628,12 +639,14 @@ public final class Promises {
         // Both 10 20 and 20 30 are 10 from 10 20 30, all between is farther: of two as near to 0 the greater one.
         s = told("word a is hold 10 for 1, hold 20 for 1, hold 30 for 1;").due("hear 15", 1).due("hear 25", 2).due("distanceTo 0", 15);
         s.due("bestShift 0", 5).due("heardPitch 0", 15).due("heardPitch 1", 25).due("distanceTo 0", 15).due("heardBeats", 2);
+        told("word a is hold 10 for 2; word b is hold 12 for 2;").due("hear 11", 1).due("bestShift 0", -1).due("bestShift 1", 1);
     }
 
     private static void meanLength() {
         Script.promise("37 meanLength");
         told("word a is hold 10 for 3;").due("meanLength", "3.0");
         told("word a is hold 10 for 3; word b is rest for 4;").due("meanLength", "3.5").due("turnPruned 0", "true").due("meanLength", "3.5");
+        told("word a is hold 10 for 9, rest for 9, rest for 6;").teach("word a is hold 1 for 1; word b is hold 1 for 2;").due("meanLength", "1.5");
         told("word a is hold 10 for 1; word b is rest for 2; word c is rest for 2;").due("meanLength", String.valueOf(5.0 / 3)).teach("").due("meanLength", "0.0");
     }
 
