@@ -54,15 +54,18 @@ public final class AgainstModel {
         }
     }
 
-    private void call(String call) {
-        if (calls < CALLS) {
-            calls++;
-            String got = program.answer(call);
-            String want = model.answer(call);
-            Script.compare("call " + calls + ", " + call, got, want);
-            String name = call.split(" ")[0];
-            seen.merge(name + (want.startsWith("throws") || name.equals("teach") ? " " + want : ""), 1, Integer::sum);
+    /** What is due, or nothing, if all calls were made. */
+    private String call(String call) {
+        if (calls == CALLS) {
+            return "";
         }
+        calls++;
+        String got = program.answer(call);
+        String want = model.answer(call);
+        Script.compare("call " + calls + ", " + call, got, want);
+        String name = call.split(" ")[0];
+        seen.merge(name + (want.startsWith("throws") || name.equals("teach") ? " " + want : ""), 1, Integer::sum);
+        return want;
     }
 
     /** Whether there was no error. */
@@ -82,10 +85,10 @@ public final class AgainstModel {
         if (!dice.once(9)) {
             call("trim " + text.length());
         }
-        call("teach");
+        boolean told = call("teach").equals("0");
         call("errorAt");
         call("digest");
-        return program.answer("errorAt").equals("-1");
+        return told;
     }
 
     private String thrown() {

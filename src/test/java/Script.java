@@ -1,11 +1,20 @@
 import java.lang.reflect.InvocationTargetException;
 import java.lang.reflect.Method;
+import java.util.Arrays;
 
 /** Calls an object by the names of its methods and compares what it answers with what is due. */
 final class Script {
+    /** Behind so many calls the document promises nothing more of an object. */
+    private static final int MOST_CALLS = 512;
+    private static final int MOST_TOLD = 50;
+    private static final String[] ASKED = {"errorAt", "words", "keptWords", "rules", "lessons", "rulesCarriedOut", "heardBeats",
+        "meantWord", "surety", "keptAfter 1", "keptAfter 20", "meanLength", "digest"};
+    private static final String[] ASKED_OF_WORDS = {"silentBeats", "distanceTo", "contourTo", "stepsTo", "bestShift", "lessonsUntilMeant"};
     private static int wrong = 0;
+    private static int compared = 0;
     private static String title = "";
     private final Object object;
+    private int calls = 0;
 
     Script(Object object) {
         this.object = object;
@@ -19,15 +28,21 @@ final class Script {
         title = name;
     }
 
+    /** How many answers were compared up to now. */
+    static int compared() {
+        return compared;
+    }
+
     static void finish() {
         System.out.println(wrong == 0 ? "all answers are as due" : wrong + " answers are wrong");
         System.exit(wrong == 0 ? 0 : 1);
     }
 
     static void compare(String what, String got, String want) {
+        compared++;
         if (!got.equals(want)) {
             wrong++;
-            if (wrong <= 50) {
+            if (wrong <= MOST_TOLD) {
                 System.out.println(title + ": " + what + " answered " + got + ", due is " + want);
             }
         }
@@ -44,8 +59,12 @@ final class Script {
     }
 
     private String answer(String name, Object[] numbers) {
+        calls++;
+        if (calls == MOST_CALLS + 1) {
+            compare("a test that calls one object", "more than 512 times", "at most 512 times");
+        }
         Class<?>[] types = new Class<?>[numbers.length];
-        java.util.Arrays.fill(types, int.class);
+        Arrays.fill(types, int.class);
         try {
             Method method = object.getClass().getDeclaredMethod(name, types);
             return String.valueOf(method.invoke(object, numbers));
@@ -63,6 +82,63 @@ final class Script {
 
     Script due(String call, long want) {
         return due(call, String.valueOf(want));
+    }
+
+    /** The call throws the exception, and all that can be asked answers the same behind it. */
+    Script refused(String call, String exception) {
+        String before = everything();
+        due(call, exception);
+        compare("everything behind " + call, everything(), before);
+        return this;
+    }
+
+    /** The call answers, and all that can be asked answers the same behind it. */
+    Script changesNothing(String call) {
+        String before = everything();
+        answer(call);
+        compare("everything behind " + call, everything(), before);
+        return this;
+    }
+
+    private String everything() {
+        StringBuilder all = new StringBuilder();
+        for (String call : ASKED) {
+            all.append(call).append(" = ").append(answer(call)).append("; ");
+        }
+        int words = Integer.parseInt(answer("words"));
+        for (int word = 0; word < words; word++) {
+            for (String call : ASKED_OF_WORDS) {
+                all.append(call).append(' ').append(word).append(" = ").append(answer(call + " " + word)).append("; ");
+            }
+            all.append("areNear 0 ").append(word).append(" = ").append(answer("areNear 0 " + word)).append("; ");
+        }
+        return all.toString();
+    }
+
+    /** The word has just these pitches. */
+    Script pitches(int word, int... pitches) {
+        due("lengthOf " + word, pitches.length);
+        for (int beat = 0; beat < pitches.length; beat++) {
+            due("pitchAt " + word + " " + beat, pitches[beat]);
+        }
+        return this;
+    }
+
+    /** Just these beats were heard. */
+    Script heard(int... pitches) {
+        due("heardBeats", pitches.length);
+        for (int beat = 0; beat < pitches.length; beat++) {
+            due("heardPitch " + beat, pitches[beat]);
+        }
+        return this;
+    }
+
+    /** Hears these beats, behind those that were heard. */
+    Script hear(int... pitches) {
+        for (int pitch : pitches) {
+            compare("hear " + pitch + " throws", String.valueOf(answer("hear " + pitch).startsWith("throws")), "false");
+        }
+        return this;
     }
 
     Script feedText(String text) {
